@@ -262,50 +262,61 @@ public final class TruthBench {
         PLUS(true, INT, INT, INT), MINUS(true, INT, INT, INT), TIMES(true, INT, INT, INT),
         OVER(true, INT, INT, INT), REST(true, INT, INT, INT), NEGATE(true, INT, INT, INT),
         CASE(false, BOOL, SAME, SAME),
-        ABS(true, INT, INT, INT, "abs", 1, 1), LENGTH(true, TEXT, TEXT, INT, "length", 1, 1),
-        UPPER(true, TEXT, TEXT, TEXT, "upper", 1, 1), LOWER(true, TEXT, TEXT, TEXT, "lower", 1, 1),
-        SUBSTR(true, TEXT, INT, TEXT, "substr", 3, 3),
-        COALESCE(false, SAME, SAME, SAME, "coalesce", 1, MOST_PARTS),
-        NULLIF(false, SAME, SAME, SAME, "nullif", 2, 2),
-        /** No number of parts is between its bounds, so the check refuses each. */
-        UNKNOWN(false, ANY, ANY, ANY, "", 1, 0);
+        ABS("abs", true, INT, INT, INT), LENGTH("length", true, TEXT, TEXT, INT),
+        UPPER("upper", true, TEXT, TEXT, TEXT), LOWER("lower", true, TEXT, TEXT, TEXT),
+        SUBSTR("substr", true, TEXT, INT, TEXT), COALESCE("coalesce", false, SAME, SAME, SAME),
+        NULLIF("nullif", false, SAME, SAME, SAME), UNKNOWN(false, ANY, ANY, ANY);
 
         private static final Op[] ALL = values();
 
+        /** That of a function; no name is empty. */
+        private final String word;
+        final boolean closing;
         /** NULL in it makes it NULL. */
         final boolean strict;
-        final boolean closing;
         final int first;
         final int rest;
         final int result;
-        final int fewest;
-        final int most;
-        private final String word;
 
         Op() {
-            this.strict = false;
+            this.word = "";
             this.closing = false;
+            this.strict = false;
             this.first = ANY;
             this.rest = ANY;
             this.result = ANY;
-            this.word = "";
-            this.fewest = 0;
-            this.most = MOST_BYTES;
         }
 
         Op(boolean strict, int first, int rest, int result) {
-            this(strict, first, rest, result, "", 0, MOST_BYTES);
+            this("", strict, first, rest, result);
         }
 
-        Op(boolean strict, int first, int rest, int result, String word, int fewest, int most) {
-            this.strict = strict;
+        Op(String word, boolean strict, int first, int rest, int result) {
+            this.word = word;
             this.closing = true;
+            this.strict = strict;
             this.first = first;
             this.rest = rest;
             this.result = result;
-            this.word = word;
-            this.fewest = fewest;
-            this.most = most;
+        }
+
+        /** Whether it may have so many parts; the rules see to that but for the functions. */
+        boolean takes(int parts) {
+            switch (this) {
+                case ABS:
+                case LENGTH:
+                case UPPER:
+                case LOWER:
+                    return parts == 1;
+                case NULLIF:
+                    return parts == 2;
+                case SUBSTR:
+                    return parts == 3;
+                case COALESCE:
+                    return parts >= 1;
+                default:
+                    return this != UNKNOWN;
+            }
         }
 
         static Op ofFunction(byte[] bytes, int from, int to) {
@@ -923,7 +934,7 @@ public final class TruthBench {
         }
 
         private void close(Op op, int parts) {
-            if (parts < op.fewest || parts > op.most) {
+            if (!op.takes(parts)) {
                 error = FUNCTION_ERROR;
                 return;
             }

@@ -225,6 +225,12 @@ final class PromisesTest {
         Due.same("10 a BOOL", x.keep(2), 1);
         Due.same("10 no BOOL is an INT", x.keep(0), 0);
         Due.same("10 it is kept", x.work("c"), "FALSE");
+        x.work("length('seven')");
+        Due.same("10 a length is an INT", x.keep(0), 1);
+        Due.same("10 a length is no TEXT", x.keep(1), 0);
+        Due.same("10 a length has no characters", x.value(1), 0);
+        x.work("b like '%'");
+        Due.same("10 a comparison is a BOOL", x.keep(2), 1);
         x.work("a + null");
         for (int r = 0; r < 3; r++) {
             Due.same("10 NULL is of any kind", x.keep(r), 1);

@@ -6,6 +6,7 @@ final class TextsTest {
         openLimit();
         partLimits();
         operatorLimit();
+        oldBytes();
         Due.finish("TextsTest");
     }
 
@@ -29,7 +30,7 @@ final class TextsTest {
             "1", "0", "9007199254740991", "000000000000000000000000000000000007", "''", "''''", "' ~'",
             "'0123456789012345678901234567890123456789'", "'" + "''".repeat(40) + "'", "'--'",
             "1and 2", "'a'like'b'", "1<2", "1<=2", "1>2", "1>=2", "1<>2", "1=2", "'a'||'b'",
-            "abcdefghijklmnopqrst()", "_()", "_9a ( )", "a()", "NuLl", "trUE", "1-1", "- - 1", "1 --1");
+            "abcdefghijklmnopqrst()", "_()", "_9a ( )", "a()", "NuLl", "trUE", "Z()", "zAZaz09_ ()", "1-1", "- - 1", "1 --1");
         broken("^", "a +^", "a + ^", "--a^", "\n--a\n^", "^i", "^ab", "^_", "^abs", "^a1", "1^a",
             "^9007199254740992", "^99999999999999999999999999999999999999", "1 + ^9007199254740992",
             "^'", "^'a", "^'a''", "^'''", "^'\n'", "a ^'\200'", "a = ^'\177'", "^'\37'",
@@ -60,7 +61,8 @@ final class TextsTest {
 
     private static void openLimit() {
         good("(".repeat(29) + "a" + ")".repeat(29));
-        broken("(".repeat(30) + "^a" + ")".repeat(30), "(".repeat(30) + "^(a", "(".repeat(30) + "^");
+        broken("(".repeat(30) + "^a" + ")".repeat(30), "(".repeat(30) + "^(a", "(".repeat(30) + "^",
+            "(".repeat(30) + "^" + ")".repeat(30), "f(".repeat(29) + "a in (^)" + ")".repeat(29));
         good("not ".repeat(29) + "a", "- ".repeat(29) + "a", "not ".repeat(10) + "- ".repeat(19) + "a");
         broken("not ".repeat(29) + "^not a", "- ".repeat(29) + "^- a",
             "not ".repeat(10) + "- ".repeat(19) + "^- a");
@@ -71,6 +73,9 @@ final class TextsTest {
         broken("(".repeat(29) + "f(^a)" + ")".repeat(29), "f(1,".repeat(29) + "f(^1" + ")".repeat(30));
         good("case when ".repeat(29) + "a" + " then b end".repeat(29));
         broken("(".repeat(29) + "case when ^a then b end", "case when ".repeat(30) + "^a");
+        String otherwise = "case when a then b else ";
+        good("case when a then ".repeat(29) + "a" + " end".repeat(29), otherwise.repeat(29) + "a" + " end".repeat(29));
+        broken(otherwise.repeat(29) + "case when ^a", otherwise.repeat(27) + "- - case when ^a");
         good("- a" + " - - d".repeat(40), "not a and " + "not b or ".repeat(40) + "not c", "(a) + ".repeat(100) + "(a)");
     }
 
@@ -94,5 +99,19 @@ final class TextsTest {
         good(mixed);
         broken(mixed + "^or 1", mixed + "^and 1", mixed + "^* 1");
         good(mixed + "= - 1", "a between 1 and 2 and ".repeat(15) + "a+".repeat(285) + "a");
+    }
+
+    /** What stood on the tape behind its end is no part of the text. */
+    private static void oldBytes() {
+        Bench x = new Bench();
+        for (String text : new String[] {"''''", "12345", "abs(1)", "1<=2", "- - 1", "'a'||'a'", "----", "f(1)"}) {
+            for (int n = 0; n <= text.length(); n++) {
+                String due = new Bench().read(text.substring(0, n));
+                x.tape(text);
+                x.bench.end(n);
+                String answer = Bench.of(() -> x.bench.read());
+                Due.same("read " + n + " bytes of " + text, due.startsWith("broken") ? "broken " + x.count(1) : answer, due);
+            }
+        }
     }
 }

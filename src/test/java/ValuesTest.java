@@ -72,7 +72,7 @@ final class ValuesTest {
         works("TRUE", "a = 7", "a <> 8", "a < 8", "a <= 7", "a > -8", "a >= 7", "b = 'hello'", "b <> 'Hello'", "'B' < 'a'",
             "'a' < 'ab'", "'' < ' '", "'ab' < 'b'", "'b' > 'abc'", "'a' <= 'a'", "d < c", "c > d", "c = true", "d <> c",
             "'a ' > 'a'", "'Z' < '_'", "a is not null", "e is null", "g is null", "null is null", "f || b is null",
-            "-9007199254740991 < 9007199254740991");
+            "-9007199254740991 < 9007199254740991", "'bz' = 'bz' and 'b' < 'ba'", "'bz' = 'bz' and 'b' = 'b'");
         works("FALSE", "a = 8", "a <> 7", "a < 7", "a <= 6", "a > 7", "a >= 8", "b = 'hell'", "b = 'hello '", "c < d", "c <> c",
             "'a' > 'b'", "a is null", "e is not null", "'ab' < 'a'", "'' is null");
         works("NULL", "e = e", "a = e", "e <> a", "a < e", "f <= b", "c > g", "null >= null", "not (a = e)");
@@ -116,7 +116,9 @@ final class ValuesTest {
             "coalesce(e)", "coalesce(null, e, null)", "nullif(a, 7)", "nullif(e, 1)", "nullif(e, e)", "nullif(b, 'hello')",
             "1 + coalesce(e, null)", "nullif(c, true)", "case when d then 1 else e end");
         works("'x'", "case when d then b else 'x' end", "coalesce(f, 'x')", "nullif('x', 'y')", "nullif('x', f)");
-        works("TRUE", "nullif(c, d)", "coalesce(g, c)", "case when d then g else c end", "coalesce(f, 'x') in ('x')");
+        works("TRUE", "nullif(c, d)", "coalesce(g, c)", "case when d then g else c end", "coalesce(f, 'x') in ('x')",
+            "coalesce(e) is null", "7 in (coalesce(e, null), 7)", "7 > 5 + nullif(1, 2)", "nullif(7, 7) is null",
+            "5 in (1, nullif(e, 1), 6 - nullif(1, e))");
         works("error 3", "case when 1 / 0 = 1 then 1 end", "case when c then 1 / 0 end", "case when d then 1 else 1 / 0 end",
             "coalesce(e, 1 / 0)", "coalesce(1 / 0, 1)", "nullif(e, 1 / 0)", "nullif(1 / 0, 1)", "case when g then 1 when 1 / 0 = 1 then 1 end");
     }
