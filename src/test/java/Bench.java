@@ -16,8 +16,9 @@ final class Bench {
         }
     }
 
-    /** Puts the text on the tape, which is empty before. */
+    /** Puts the text on the tape in place of what stands there. */
     void tape(String text) {
+        bench.end(0);
         byte[] bytes = text.getBytes(StandardCharsets.ISO_8859_1);
         int[] ints = new int[(bytes.length + 19) / 20 * 5];
         for (int k = 0; k < bytes.length; k++) {
@@ -97,13 +98,13 @@ final class Bench {
 
     private String shown(String kind) {
         if (kind.equals("1")) {
-            return "'" + characters() + "'";
+            return "'" + characters((int) bench.value(0)) + "'";
         }
         return kind.equals("2") ? (bench.value(0) == 1 ? "TRUE" : "FALSE") : value(0);
     }
 
-    /** The characters of THE VALUE, as many as its length says, with a mark if zeros don't follow. */
-    String characters() {
+    /** The first characters of THE VALUE, so many, with a mark if zeros don't follow. */
+    String characters(int length) {
         StringBuilder all = new StringBuilder();
         for (int what = 1; what <= 5; what++) {
             long eight = bench.value(what);
@@ -111,7 +112,6 @@ final class Bench {
                 all.append((char) (eight >> shift & 255));
             }
         }
-        int length = (int) bench.value(0);
         boolean zeros = all.substring(length).chars().allMatch(c -> c == 0);
         return all.substring(0, length) + (zeros ? "" : " and no zeros behind");
     }
