@@ -30,6 +30,7 @@ final class CallEdgesTest {
         withoutX();
         theTapeIsReadByTwoCalls();
         calls512();
+        readsAmong512();
         Due.finish("CallEdgesTest");
     }
 
@@ -56,7 +57,8 @@ final class CallEdgesTest {
         String none = "IllegalStateException: IllegalStateException";
         Due.same("As said; no X.", State.after(x -> { }), "{bytes=0, place=-1, error=0, tape='', value=NULL, X=" + none
             + ", a=0: NULL, b=0: NULL, c=0: NULL, d=0: NULL, e=0: NULL, f=0: NULL, g=0: NULL, h=0: NULL}");
-        Due.same("what the other edges begin with", State.after(State::filled), "{bytes=4, place=4, error=6, tape='tape', value='held',"
+        Due.same("what the other edges begin with", State.after(State::filled),
+            "{bytes=4, place=4, error=6, tape='tape', value='held',"
             + " X=0: 8, a=0: 7, b=1: 'hello', c=2: TRUE, d=2: FALSE, e=0: NULL, f=1: NULL, g=2: NULL, h=1: 'it's'}");
     }
 
@@ -76,8 +78,8 @@ final class CallEdgesTest {
         new Edge(sentence, fed(981)).answers("IndexOutOfBoundsException", "feed", Bench::feed);
         new Edge(sentence, fed(1000)).answers("IndexOutOfBoundsException", "feed", Bench::feed);
         new Edge(sentence, fed(0)).answers(20, "feed", Bench::feed, "bytes", 20, "tape", "'abcdefghijklmnopqrst'");
-        new Edge(sentence, fed(21)).answers("IndexOutOfBoundsException", "feed till it is refused", CallEdgesTest::feedTillRefused,
-            "bytes", 981, "tape", "no TEXT");
+        new Edge(sentence, fed(21)).answers("IndexOutOfBoundsException", "feed till it is refused",
+                CallEdgesTest::feedTillRefused, "bytes", 981, "tape", "no TEXT");
         Bench x = new Bench();
         x.tape("1+".repeat(300) + " ".repeat(399) + "1");
         Due.same(sentence + " | feed", x.feed(), "IndexOutOfBoundsException");
@@ -99,11 +101,13 @@ final class CallEdgesTest {
         for (int k = 0; k < 20; k++) {
             int[] ints = {0x20202020, 0x20202020, 0x20202020, 0x20202020, 0x20202020};
             ints[k / 4] ^= (0x20 ^ 0x7E) << 24 - k % 4 * 8;
-            new Edge(sentence, x -> x.tape("'")).answers(21, "~ as byte " + k, x -> x.bench.feed(ints[0], ints[1], ints[2], ints[3],
-                ints[4]), "bytes", 21, "tape", "''" + " ".repeat(k) + "~" + " ".repeat(19 - k) + "'");
+            new Edge(sentence, x -> x.tape("'")).answers(21, "~ as byte " + k,
+                    x -> x.bench.feed(ints[0], ints[1], ints[2], ints[3], ints[4]), "bytes", 21, "tape",
+                    "''" + " ".repeat(k) + "~" + " ".repeat(19 - k) + "'");
         }
         Edge.of(sentence).answers(24, "feed -1", x -> x.bench.feed(-1, -1, -1, -1, -1), "bytes", 24, "tape", "no TEXT");
-        Edge.of(sentence).answers(4, "feed and end", x -> { x.bench.feed(-1, LEAST_INT, GREATEST_INT, 0, 1); return x.end(4); });
+        Edge.of(sentence)
+            .answers(4, "feed and end", x -> { x.bench.feed(-1, LEAST_INT, GREATEST_INT, 0, 1); return x.end(4); });
     }
 
     private static void end() {
@@ -116,8 +120,8 @@ final class CallEdgesTest {
             .refuses("end 3 and 4", x -> { x.end(3); return x.end(4); }, "bytes", 3, "tape", "'tap'");
         new Edge(sentence + " Empty", x -> { }).answers(0, "end 0", x -> x.end(0)).refuses("end 1", x -> x.end(1))
             .refuses("end -1", x -> x.end(-1));
-        new Edge(sentence + " Full", fed(1000)).answers(1000, "end 1000", x -> x.end(1000)).refuses("end 1001", x -> x.end(1001))
-            .answers(999, "end 999", x -> x.end(999), "bytes", 999)
+        new Edge(sentence + " Full", fed(1000)).answers(1000, "end 1000", x -> x.end(1000))
+            .refuses("end 1001", x -> x.end(1001)).answers(999, "end 999", x -> x.end(999), "bytes", 999)
             .answers(40, "end 40", x -> x.end(40), "bytes", 40, "tape", "'" + "x".repeat(40) + "'");
     }
 
@@ -134,7 +138,8 @@ final class CallEdgesTest {
             }
         }
         for (int wrong : new int[] {-1, 8, LEAST_INT, GREATEST_INT, 256}) {
-            Edge.of(sentence).refuses("clear " + wrong + " 0", x -> x.clear(wrong, 0)).refuses("both", x -> x.clear(wrong, wrong));
+            Edge.of(sentence).refuses("clear " + wrong + " 0", x -> x.clear(wrong, 0))
+                .refuses("both", x -> x.clear(wrong, wrong));
         }
         for (int wrong : new int[] {-1, 3, LEAST_INT, GREATEST_INT, 256}) {
             Edge.of(sentence).refuses("clear 0 " + wrong, x -> x.clear(0, wrong)).refuses("clear 7", x -> x.clear(7, wrong));
@@ -157,7 +162,8 @@ final class CallEdgesTest {
     private static void setBool() {
         String sentence = "BOOL: v 0 or 1";
         Edge.of(sentence).answers("done", "set 6 0", x -> x.set(6, 0), "g", "2: FALSE")
-            .answers("done", "set 6 1", x -> x.set(6, 1), "g", "2: TRUE").answers("done", "set 2 0", x -> x.set(2, 0), "c", "2: FALSE")
+            .answers("done", "set 6 1", x -> x.set(6, 1), "g", "2: TRUE")
+            .answers("done", "set 2 0", x -> x.set(2, 0), "c", "2: FALSE")
             .answers("done", "set 3 1", x -> x.set(3, 1), "d", "2: TRUE");
         for (long v : new long[] {-1, 2, 1L << 32, (1L << 32) + 1, Long.MIN_VALUE, Long.MAX_VALUE, MOST}) {
             Edge.of(sentence).refuses("set 2 " + v, x -> x.set(2, v)).refuses("set 6 " + v, x -> x.set(6, v));
@@ -166,7 +172,8 @@ final class CallEdgesTest {
 
     private static void setText() {
         for (long v : new long[] {0, 1, -1, MOST, MOST + 1}) {
-            Edge.of("of a TEXT IllegalArgumentException").refuses("set 1 " + v, x -> x.set(1, v)).refuses("of NULL", x -> x.set(5, v));
+            Edge.of("of a TEXT IllegalArgumentException").refuses("set 1 " + v, x -> x.set(1, v))
+                .refuses("of NULL", x -> x.set(5, v));
         }
     }
 
@@ -174,7 +181,8 @@ final class CallEdgesTest {
         String sentence = "The TAPE (empty then) is its TEXT; more than 40 bytes: IllegalArgumentException.";
         for (int n : new int[] {0, 1, 8, 39, 40}) {
             String text = FORTY.substring(0, n);
-            Edge.of(sentence).answers("done", "text of " + n, x -> x.text(1, text), "bytes", 0, "tape", "''", "b", "1: '" + text + "'")
+            Edge.of(sentence)
+                .answers("done", "text of " + n, x -> x.text(1, text), "bytes", 0, "tape", "''", "b", "1: '" + text + "'")
                 .answers("done", "of NULL", x -> x.text(5, text), "bytes", 0, "tape", "''", "f", "1: '" + text + "'");
         }
         for (int n : new int[] {41, 42, 60, 255, 256, 296, 1000}) {
@@ -220,12 +228,14 @@ final class CallEdgesTest {
         new Edge(sentence, worked("6 * 7")).answers(1, "keep 0", x -> x.keep(0), "a", "0: 42");
         Edge.of(sentence).answers(1, "keep 7", x -> x.keep(7), "h", "1: 'held'");
         new Edge("(NULL at first.)", x -> x.set(7, 1)).answers(1, "keep 7", x -> x.keep(7), "h", "0: NULL");
-        new Edge("(NULL at first.)", x -> { x.clear(1, 1); x.text(1, "x"); }).answers(1, "keep 1", x -> x.keep(1), "b", "1: NULL");
+        new Edge("(NULL at first.)", x -> { x.clear(1, 1); x.text(1, "x"); })
+            .answers(1, "keep 1", x -> x.keep(1), "b", "1: NULL");
     }
 
     private static void keepKind() {
         String sentence = "of THE VALUE'S KIND: 1 (of any KIND if that is NULL); another KIND: 0.";
-        String[][] values = {{"" + MOST, "-" + MOST, "0", "1"}, {"'" + FORTY.replace("'", "''") + "'", "''", "'x'"}, {"true", "false"},
+        String[][] values = {{"" + MOST, "-" + MOST, "0", "1"}, {"'" + FORTY.replace("'", "''") + "'", "''", "'x'"},
+            {"true", "false"},
             {"null", "e", "f", "g", "null = 1"}};
         for (int kind = 0; kind <= 3; kind++) {
             for (String text : values[kind]) {
@@ -356,19 +366,19 @@ final class CallEdgesTest {
             new Edge(sentence, before).answers("IllegalStateException", "kind", x -> x.bench.kind())
                 .answers("IllegalStateException", "work", x -> x.bench.work());
         }
-        new Edge(sentence, broken).answers(1, "read and work", x -> { x.bench.read(); return x.bench.work(); }, "place", -1, "bytes", 0,
-            "tape", "''", "X", "0: 4", "value", 4);
+        new Edge(sentence, broken).answers(1, "read and work", x -> { x.bench.read(); return x.bench.work(); }, "place", -1,
+                "bytes", 0, "tape", "''", "X", "0: 4", "value", 4);
     }
 
     private static void theTapeIsReadByTwoCalls() {
         String sentence = "a call that reads THE TAPE leaves it empty, also if it throws";
-        Edge.of(sentence).answers("done", "text", x -> { x.bench.text(1); return "done"; }, "bytes", 0, "tape", "''", "b", "1: 'tape'")
+        Edge.of(sentence)
+            .answers("done", "text", x -> { x.bench.text(1); return "done"; }, "bytes", 0, "tape", "''", "b", "1: 'tape'")
             .refuses("text of an INT", x -> { x.bench.text(0); return "done"; }, "bytes", 0, "tape", "''")
             .answers("UnsupportedOperationException", "read", x -> x.bench.read(), "bytes", 0, "tape", "''", "place", 0)
             .answers(1, "read", x -> { x.end(0); x.tape("1"); return x.bench.read(); }, "bytes", 0, "tape", "''", "place", -1,
-                "X", "0: 1")
-            .answers("UnsupportedOperationException", "read twice", x -> { x.read("1"); return x.bench.read(); }, "bytes", 0,
-                "tape", "''", "place", 0, "X", "0: 1")
+                "X", "0: 1").answers("UnsupportedOperationException", "read twice",
+                x -> { x.read("1"); return x.bench.read(); }, "bytes", 0, "tape", "''", "place", 0, "X", "0: 1")
             .answers("done", "text twice", x -> { x.text(1, "q"); x.bench.text(1); return "done"; }, "bytes", 0, "tape", "''",
                 "b", "1: ''");
         Edge.of(sentence + "; the others leave it").answers(0, "kind", x -> x.bench.kind())
@@ -392,5 +402,19 @@ final class CallEdgesTest {
             calls += 8;
         }
         Due.same(sentence, calls, 512);
+    }
+
+    /** As many reads of long texts as there can be, by turns good and broken. */
+    private static void readsAmong512() {
+        Bench x = new Bench();
+        for (int round = 0; round < 5; round++) {
+            String part = "'" + "0123456789".repeat(3) + "012345678" + round + "'";
+            String text = "length(" + part + ")" + (" + length(" + part + ")").repeat(17);
+            Due.same("512 calls | read " + round, x.read(text), text.length());
+            Due.same("512 calls | work " + round, x.work(), 720);
+            Due.same("512 calls | X is a text", x.work(part), part);
+            Due.same("512 calls | broken", x.read(part + " " + part), "broken 43");
+            Due.same("512 calls | X stays", x.work(), part);
+        }
     }
 }
