@@ -382,10 +382,6 @@ public final class TruthBench {
             return number >= 0 && number < REGISTERS ? number : NOWHERE;
         }
 
-        Op function() {
-            return Op.ofFunction(bytes, start, after);
-        }
-
         private void skipBlanks() {
             boolean comment = false;
             for (; at < length; at++) {
@@ -779,11 +775,11 @@ public final class TruthBench {
         /** Takes a name. If it is that of a function, its ( stands now; NONE if it is a register. */
         private Op nameOrFunction() {
             int start = scanner.start;
+            int after = scanner.after;
             int register = scanner.register();
-            Op function = scanner.function();
             scanner.next();
             if (scanner.sign == Sign.OPEN) {
-                return function;
+                return Op.ofFunction(bytes, start, after);
             }
             if (register == NOWHERE) {
                 breakAt(start);

@@ -294,6 +294,9 @@ final class WorkEdgesTest {
         for (String one : texts) {
             for (String other : texts) {
                 compare(sentence, "'" + one + "'", "'" + other + "'", one.compareTo(other));
+                // What longer texts have left behind the ends of these is no part of them.
+                compare(sentence, "'~~~~' = '~~~~' and '" + one + "'", "'" + other + "'", one.compareTo(other));
+                compare(sentence, "'~~~~' in ('~~~~') and '" + one + "'", "'" + other + "'", one.compareTo(other));
             }
         }
     }
