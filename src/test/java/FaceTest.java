@@ -37,7 +37,29 @@ final class FaceTest {
             Due.same("field " + f.getName() + " is private", Modifier.isPrivate(f.getModifiers()), true);
         }
         Due.same("the class is public and final", Modifier.toString(TruthBench.class.getModifiers()), "public final");
+        Due.same("what it extends", TruthBench.class.getSuperclass(), Object.class);
+        Due.same("what it implements", TruthBench.class.getInterfaces().length, 0);
+        inside(TruthBench.class);
+        for (Class<?> c : TruthBench.class.getDeclaredClasses()) {
+            Due.same(c + " is hidden", Modifier.isPublic(c.getModifiers()) || Modifier.isProtected(c.getModifiers()), false);
+            Due.same(c + " is static", Modifier.isStatic(c.getModifiers()), true);
+            inside(c);
+        }
         Due.finish("FaceTest");
+    }
+
+    /** No private method bears the name of a public one, and no static field can be changed. */
+    private static void inside(Class<?> c) {
+        Set<String> face = Arrays.stream(TruthBench.class.getDeclaredMethods()).filter(m -> Modifier.isPublic(m.getModifiers()))
+            .map(Method::getName).collect(Collectors.toSet());
+        for (Method m : c.getDeclaredMethods()) {
+            boolean open = c == TruthBench.class && Modifier.isPublic(m.getModifiers());
+            Due.same(c + " has a " + m.getName() + " that is none of the face", !open && face.contains(m.getName()), false);
+        }
+        for (Field f : c.getDeclaredFields()) {
+            boolean changes = Modifier.isStatic(f.getModifiers()) && !Modifier.isFinal(f.getModifiers());
+            Due.same(c + " has a static " + f.getName() + " that changes", changes, false);
+        }
     }
 
     private static String names(Class<?>[] types) {

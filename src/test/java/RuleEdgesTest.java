@@ -26,6 +26,7 @@ final class RuleEdgesTest {
         openMixed();
         openNoMore();
         openAndWorkedOut();
+        openWithMostValues();
         eightInList();
         eightInFunction();
         nineteenWhens();
@@ -234,6 +235,23 @@ final class RuleEdgesTest {
             .reads("1-(".repeat(29) + "1" + ")".repeat(29), "0: 0")
             .reads("'x'||(".repeat(29) + "'x'" + ")".repeat(29), "1: '" + "x".repeat(30) + "'")
             .reads("substr('ab',1,length(".repeat(14) + "'x'" + "))".repeat(14), "1: 'a'");
+    }
+
+    /** As many values as the tape has room for wait for the innermost X, and each of them counts in the end. */
+    private static void openWithMostValues() {
+        String in = "d or c and c in(";
+        Edge edge = Edge.of("At most 30 X open at a time, with all that waits for the last of them")
+            .reads(in.repeat(29) + "d or c and 0 between 0 and 0+1*2" + ")".repeat(29), "2: TRUE")
+            .reads(in.repeat(29) + "d or c and 3 between 0 and 0+1*2" + ")".repeat(29), "2: FALSE");
+        for (int k = 0; k < 29; k++) {
+            edge.reads(in.repeat(k) + "d or c and c not in(" + in.repeat(28 - k) + "c" + ")".repeat(29), "2: FALSE")
+                .reads(in.repeat(k) + "c or c and c in(" + in.repeat(28 - k) + "d" + ")".repeat(29), "2: TRUE");
+        }
+        String between = "d or c and c between d and nullif(c,";
+        edge.reads(in.repeat(5) + between.repeat(24) + "c" + ")".repeat(29), "2: TRUE")
+            .reads(in.repeat(5) + between.repeat(24) + "d" + ")".repeat(29), "2: NULL")
+            .reads(in.repeat(6) + between.repeat(23) + "c" + ")".repeat(29), "2: NULL")
+            .reads(between.repeat(23) + in.repeat(6) + "c" + ")".repeat(29), "2: NULL");
     }
 
     private static void eightInList() {
